@@ -428,7 +428,6 @@ public final class SnippetSession {
 
     private void endSessionAt(int pos) {
         activeStop = NO_STOP;
-        selected = false;
         putCaret(pos);
     }
 

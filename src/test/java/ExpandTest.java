@@ -12,6 +12,7 @@ public final class ExpandTest {
         takesTheLongestBodies();
         clearsWhatWasTyped();
         keepsTheStructureWhenRefused();
+        forgetsARefusedBody();
         undoesToTheBuffer();
         Check.finish();
     }
@@ -120,7 +121,8 @@ public final class ExpandTest {
     }
 
     private static void keepsTheStructureWhenRefused() {
-        for (String refusedBody : new String[] {"${3:z}${4:y}$3$", "x".repeat(64), "${2:" + "x".repeat(59) + "}"}) {
+        String[] bodies = {"${3:z}${4:y}$3$", "x".repeat(64), "${2:" + "x".repeat(59) + "}"};
+        for (String refusedBody : bodies) {
             SnippetSession x = Check.expanded(40, 16, "ab", 1, "${1:m}${2:n}${1/u}");
             Check.type(x, "q");
             String before = Check.whole(x);
@@ -135,6 +137,17 @@ public final class ExpandTest {
             Check.type(x, "r");
             Check.same("and follows its structure", Check.text(x), "aqrnQRb");
         }
+    }
+
+    private static void forgetsARefusedBody() {
+        SnippetSession x = new SnippetSession(64, 16);
+        Check.setBody(x, "$0$1${2:a${3:b");
+        Check.is("malformed", x.expand(), SnippetSession.SYNTAX);
+        Check.setBody(x, "${1:a}$0${2:b}$1");
+        Check.is("well formed", x.expand(), SnippetSession.OK);
+        Check.same("text", Check.text(x), "aba");
+        Check.same("final", Check.range(x, 0), "1..1");
+        Check.is("no stop 3", x.stopState(3), SnippetSession.ABSENT);
     }
 
     private static void undoesToTheBuffer() {

@@ -42,6 +42,9 @@ public final class StopPosTest {
         Check.same("before the stop", Check.range(x, 0), "1..1");
         SnippetSession y = Check.expanded(64, 16, "ab", 1, "${1:xyz}.");
         Check.same("added after all items", Check.range(y, 0), "5..5");
+        SnippetSession z = Check.expanded("${1:xy}$0$1${2:z}$1");
+        Check.same("just before a mirror", Check.range(z, 0), "2..2");
+        Check.same("between two mirrors", Check.range(z, 2), "4..5");
     }
 
     private static void refusesWithoutARange() {

@@ -166,6 +166,10 @@ public final class TypeCharTest {
         Check.is("stop 5 is outside", x.stopState(5), SnippetSession.UNTOUCHED);
         Check.is("the active stop stays", Check.active(x), 1);
         Check.same("text", Check.text(x), "z");
+        SnippetSession y = Check.expanded("${9:a${8:b}}");
+        y.next();
+        Check.type(y, "z");
+        Check.is("stop 8 in stop 9", y.stopState(8), SnippetSession.DEAD);
     }
 
     private static void keepsMirrorsOfDeadStops() {

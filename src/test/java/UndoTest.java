@@ -4,6 +4,7 @@ public final class UndoTest {
         refusesAnEmptyHistory();
         restoresPlainEdits();
         restoresASession();
+        restoresTypedTexts();
         bringsBackAnEndedSession();
         keepsStructureAndBody();
         dropsTheOldest();
@@ -59,6 +60,20 @@ public final class UndoTest {
         Check.same("text", Check.text(x), "aab|b|ABb");
         Check.same("selection", Check.selection(x), "2..3 2 1");
         Check.is("stop 2", x.stopState(2), SnippetSession.UNTOUCHED);
+    }
+
+    private static void restoresTypedTexts() {
+        SnippetSession x = Check.expanded("${1:a}${2:b}$2$1");
+        Check.type(x, "xyz");
+        x.next();
+        Check.type(x, "pq");
+        x.prev();
+        Check.type(x, "mno");
+        Check.is("undo", x.undo(), SnippetSession.OK);
+        Check.same("text", Check.text(x), "xyzpqpqxyz");
+        x.next();
+        Check.type(x, "s");
+        Check.same("the text of stop 1 came back too", Check.text(x), "xyzssxyz");
     }
 
     private static void bringsBackAnEndedSession() {
