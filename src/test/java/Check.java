@@ -3,14 +3,20 @@ import java.util.function.IntSupplier;
 /** What the tests share: comparing answers, feeding bodies, and seeing a session whole. */
 final class Check {
     private static int wrong = 0;
+    private static String sentence = "";
 
     private Check() {
+    }
+
+    /** The words of the document that the checks after it are about; a failure tells them. */
+    static void says(String words) {
+        sentence = "\"" + words + "\": ";
     }
 
     static void same(String what, Object got, Object want) {
         if (!want.equals(got)) {
             wrong++;
-            System.out.println(what + ": got " + got + ", due is " + want);
+            System.out.println(sentence + what + ": got " + got + ", due is " + want);
         }
     }
 
@@ -30,6 +36,13 @@ final class Check {
         x.clearSnippet();
         for (int i = 0; i < body.length(); i++) {
             is("feed of \"" + body + "\" at " + i, x.feed(body.charAt(i)), SnippetSession.OK);
+        }
+    }
+
+    /** Makes calls, told as Steps tells them, that must all answer OK. */
+    static void play(SnippetSession x, String... steps) {
+        for (String step : steps) {
+            is("\"" + step + "\"", Steps.take(x, step), SnippetSession.OK);
         }
     }
 
@@ -77,6 +90,10 @@ final class Check {
         return x.info(SnippetSession.INFO_ACTIVE);
     }
 
+    static int length(SnippetSession x) {
+        return x.info(SnippetSession.INFO_LENGTH);
+    }
+
     static int undoDepth(SnippetSession x) {
         return x.info(SnippetSession.INFO_UNDO_DEPTH);
     }
@@ -103,7 +120,21 @@ final class Check {
         for (int key = 0; key <= 9; key++) {
             all.append(' ').append(x.info(key));
         }
-        all.append(" stops");
+        return all.append(stops(x)).toString();
+    }
+
+    /** Everything that the getters tell, but for the body and its length. */
+    static String wholeButBody(SnippetSession x) {
+        StringBuilder all = new StringBuilder();
+        all.append('"').append(text(x)).append("\" info");
+        for (int key = 0; key <= 9; key++) {
+            all.append(' ').append(key == SnippetSession.INFO_BODY_LENGTH ? "_" : x.info(key));
+        }
+        return all.append(stops(x)).toString();
+    }
+
+    private static String stops(SnippetSession x) {
+        StringBuilder all = new StringBuilder(" stops");
         for (int n = 0; n <= 9; n++) {
             all.append(' ').append(x.stopState(n)).append('@').append(range(x, n));
         }

@@ -3,44 +3,72 @@ public final class EscapeTest {
     public static void main(String[] args) {
         refusesWithoutASession();
         leavesTheCaret();
-        keepsTextsAndHistory();
+        startsNoGroup();
+        clearsMerge();
+        keepsTheRest();
         Check.finish();
     }
 
     private static void refusesWithoutASession() {
-        SnippetSession x = new SnippetSession(8, 2);
-        Check.refused("fresh", x, x::escape, SnippetSession.STATE);
-        Check.type(x, "a");
-        Check.refused("merging", x, x::escape, SnippetSession.STATE);
-        SnippetSession y = Check.expanded("$1");
-        y.escape();
-        Check.refused("after the session", y, y::escape, SnippetSession.STATE);
+        Check.says("`escape()` with no session answers STATE.");
+        SnippetSession fresh = new SnippetSession(8, 2);
+        Check.refused("fresh", fresh, fresh::escape, SnippetSession.STATE);
+        Check.play(fresh, "type a");
+        Check.refused("merging", fresh, fresh::escape, SnippetSession.STATE);
+        SnippetSession noStops = Check.expanded("a$0b");
+        Check.refused("after an expansion without stops", noStops, noStops::escape, SnippetSession.STATE);
+        for (String end : new String[] {"next", "escape", "undo"}) {
+            SnippetSession x = Check.expanded("$1");
+            Check.play(x, end);
+            Check.refused("after " + end, x, x::escape, SnippetSession.STATE);
+        }
     }
 
     private static void leavesTheCaret() {
-        SnippetSession x = Check.expanded(64, 16, "ab", 1, "${1:xyz}-$0");
-        Check.is("escape", x.escape(), SnippetSession.OK);
-        Check.same("the caret stays, the selection goes", Check.selection(x), "4..4 -1 0");
-        Check.same("text", Check.text(x), "axyz-b");
-        Check.is("no stop", x.stopState(1), SnippetSession.ABSENT);
-        Check.type(x, "!");
-        Check.same("typing goes on there", Check.text(x), "axyz!-b");
+        Check.says("Otherwise the session ends, the caret is unchanged and selStart = caret; OK.");
+        SnippetSession selected = Check.expanded(64, 16, "ab", 1, "${1:xyz}-$0");
+        Check.play(selected, "escape");
+        Check.same("the caret stays, the selection goes", Check.selection(selected), "4..4 -1 0");
+        Check.play(selected, "type !");
+        Check.same("typing goes on there", Check.text(selected), "axyz!-b");
+        SnippetSession empty = Check.expanded(64, 16, "ab", 0, "$1");
+        Check.play(empty, "escape");
+        Check.same("an empty selection at the start", Check.selection(empty), "0..0 -1 0");
+        SnippetSession typed = Check.expanded(64, 16, "ab", 1, "${1:xyz}-$0");
+        Check.play(typed, "type qr", "escape");
+        Check.same("after typing", Check.selection(typed), "3..3 -1 0");
     }
 
-    private static void keepsTextsAndHistory() {
-        SnippetSession x = Check.expanded("${1:a}$1");
-        Check.type(x, "q");
-        Check.is("escape", x.escape(), SnippetSession.OK);
-        Check.is("depth", Check.undoDepth(x), 2);
+    private static void startsNoGroup() {
+        Check.says("No group is started");
+        SnippetSession x = Check.expanded("${1:a}");
+        Check.play(x, "escape");
+        Check.is("depth", Check.undoDepth(x), 1);
+        SnippetSession y = Check.expanded("${1:a}");
+        Check.play(y, "type q", "escape");
+        Check.is("depth after typing", Check.undoDepth(y), 2);
+    }
+
+    private static void clearsMerge() {
+        Check.says("merge becomes false.");
+        SnippetSession x = Check.expanded("${1:a}");
+        Check.play(x, "type q", "escape");
         Check.is("merge", Check.merge(x), 0);
-        Check.same("text", Check.text(x), "qq");
-        Check.type(x, "r");
+        Check.play(x, "type r");
         Check.is("a new group", Check.undoDepth(x), 3);
-        Check.same("the mirror no longer follows", Check.text(x), "qrq");
-        x.undo();
-        x.undo();
-        Check.same("the session is back", Check.selection(x), "0..1 1 1");
-        Check.type(x, "s");
-        Check.same("with its structure", Check.text(x), "ss");
+    }
+
+    private static void keepsTheRest() {
+        Check.says("The buffer, typed flags, typed texts and structure do not change.");
+        SnippetSession x = Check.expanded("${1:a${2:b}}$2$1");
+        Check.play(x, "next", "type q", "prev", "type z", "escape");
+        Check.same("buffer", Check.text(x), "zqz");
+        Check.play(x, "type !");
+        Check.same("the mirror no longer follows", Check.text(x), "z!qz");
+        Check.play(x, "undo", "undo");
+        Check.same("the session is back", Check.selection(x), "0..2 1 1");
+        Check.is("with its typed flag", x.stopState(2), SnippetSession.TYPED);
+        Check.play(x, "type s");
+        Check.same("its texts and its structure", Check.text(x), "sqs");
     }
 }
