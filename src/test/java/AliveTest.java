@@ -22,8 +22,9 @@ public final class AliveTest {
             }
             Check.play(x, "type q");
             for (int n = 1; n <= 5; n++) {
-                int due = n == typed ? SnippetSession.TYPED : n < typed ? SnippetSession.UNTOUCHED : SnippetSession.DEAD;
-                Check.is("stop " + n + " with " + typed + " typed", x.stopState(n), due);
+                int other = n < typed ? SnippetSession.UNTOUCHED : SnippetSession.DEAD;
+                Check.is("stop " + n + " with " + typed + " typed", x.stopState(n),
+                        n == typed ? SnippetSession.TYPED : other);
             }
         }
     }

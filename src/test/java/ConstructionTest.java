@@ -119,7 +119,8 @@ public final class ConstructionTest {
 
     private static void limitsBind() {
         Check.says("fixes the capacity and the history cap");
-        int[][] limits = {{-5, 0, 8, 1}, {7, 1, 8, 1}, {8, 2, 8, 2}, {33, 7, 33, 7}, {64, 16, 64, 16}, {65, 17, 64, 16}};
+        int[][] limits = {
+            {-5, 0, 8, 1}, {7, 1, 8, 1}, {8, 2, 8, 2}, {33, 7, 33, 7}, {64, 16, 64, 16}, {65, 17, 64, 16}};
         for (int[] l : limits) {
             SnippetSession x = new SnippetSession(l[0], l[1]);
             Check.type(x, "a".repeat(l[2]));

@@ -136,7 +136,8 @@ public final class ExpandTest {
 
     private static void syntaxBeforeRoom() {
         Check.says("`expand()` tests in order");
-        for (String body : new String[] {"123456789}", "123456789$", "${1:123456789", "}123456789", "${1:12345}$1${1:}"}) {
+        String[] bodies = {"123456789}", "123456789$", "${1:123456789", "}123456789", "${1:12345}$1${1:}"};
+        for (String body : bodies) {
             SnippetSession x = new SnippetSession(8, 16);
             Check.setBody(x, body);
             Check.refused(body, x, x::expand, SnippetSession.SYNTAX);
@@ -198,6 +199,9 @@ public final class ExpandTest {
         }
         Check.play(x, "type q");
         Check.same("text", Check.text(x), "abqqcb");
+        SnippetSession y = Check.expanded(8, 16, "", 0, "$1$1$1$1$1$1");
+        Check.play(y, "escape", "body $1", "expand", "type 12345678");
+        Check.same("the old mirrors take no room", Check.text(y), "12345678");
     }
 
     private static void forgetsARefusedBody() {

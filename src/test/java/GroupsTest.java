@@ -109,7 +109,8 @@ public final class GroupsTest {
         Check.says("Every other successful call");
         SnippetSession x = new SnippetSession(20, 8);
         Check.play(x, "body $", "type ab");
-        for (String call : new String[] {"next", "prev", "escape", "caret 3", "caret -1", "expand", "code 31", "feed 31"}) {
+        String[] calls = {"next", "prev", "escape", "caret 3", "caret -1", "expand", "code 31", "feed 31"};
+        for (String call : calls) {
             Check.same(call + " is refused", Steps.take(x, call) < 0, true);
             Check.is("merge after " + call, Check.merge(x), 1);
         }

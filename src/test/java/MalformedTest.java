@@ -126,9 +126,9 @@ public final class MalformedTest {
             malformed("${0/" + m + "}", "$0${0/" + m + "}", "${0/" + m + "}$0");
             for (int d = 1; d <= 9; d++) {
                 int other = d % 9 + 1;
-                malformed("${" + d + "/" + m + "}", "${" + d + "/" + m + "}$" + d, "$" + other + "${" + d + "/" + m + "}",
-                        "$0${" + d + "/" + m + "}");
-                wellFormed("$" + d + "${" + d + "/" + m + "}");
+                String mirror = "${" + d + "/" + m + "}";
+                malformed(mirror, mirror + "$" + d, "$" + other + mirror, "$0" + mirror);
+                wellFormed("$" + d + mirror);
             }
         }
     }

@@ -1,6 +1,7 @@
 /** "Render" and "Buffer during a session". */
 public final class RenderTest {
     public static void main(String[] args) {
+        literals();
         finalIsEmpty();
         typedText();
         typedEmptyText();
@@ -14,6 +15,12 @@ public final class RenderTest {
         ranges();
         finalPosition();
         Check.finish();
+    }
+
+    private static void literals() {
+        Check.says("text(literal) = its character");
+        SnippetSession x = Check.expanded(" ~{:/\\}\\$\\\\");
+        Check.same("text", Check.text(x), " ~{:/}$\\");
     }
 
     private static void finalIsEmpty() {

@@ -9,6 +9,7 @@ public final class SetCaretTest {
         refusesOtherPositions();
         takesThePositionsOfTheText();
         stateBeforeRange();
+        anyInt();
         startsNoGroup();
         clearsMerge();
         keepsTheBuffer();
@@ -62,6 +63,18 @@ public final class SetCaretTest {
         SnippetSession x = Check.expanded("${1:abc}");
         for (int pos : INTS) {
             Check.refused("setCaret(" + pos + ")", x, () -> x.setCaret(pos), SnippetSession.STATE);
+        }
+    }
+
+    private static void anyInt() {
+        Check.says("Any int value of pos is handled.");
+        for (String[] state : Twin.STATES) {
+            for (int pos : INTS) {
+                SnippetSession x = Twin.make(state);
+                int outside = pos >= 0 && pos <= Check.length(x) ? SnippetSession.OK : SnippetSession.RANGE;
+                Check.is("setCaret(" + pos + ") in " + String.join(", ", state), x.setCaret(pos),
+                        Check.active(x) == -1 ? outside : SnippetSession.STATE);
+            }
         }
     }
 

@@ -2,6 +2,7 @@
 public final class SyntaxTest {
     public static void main(String[] args) {
         escapes();
+        digits();
         references();
         placeholders();
         transformedMirrors();
@@ -36,6 +37,14 @@ public final class SyntaxTest {
         renders("\\\\$1", "\\", "1..1 1 1");
         renders("${1:a\\}b}", "a}b", "0..3 1 1");
         renders("${1:\\$\\\\:/}", "$\\:/", "0..4 1 1");
+    }
+
+    private static void digits() {
+        Check.says("(d is a digit '0'..'9'; its value is the stop number)");
+        for (int d = 0; d <= 9; d++) {
+            SnippetSession x = Check.expanded("x$" + d + (d == 1 ? "$2" : "$1"));
+            Check.same("stop " + d, Check.range(x, d), "1..1");
+        }
     }
 
     private static void references() {

@@ -77,6 +77,8 @@ public final class TransformTest {
         Check.same("nothing else is taken for it", Check.text(y), "a");
         SnippetSession z = Check.expanded("$1${1/c}");
         Check.same("nor at the end of the buffer", Check.text(z), "");
+        SnippetSession full = Check.expanded(64, 16, "a".repeat(64), 64, "$1${1/c}");
+        Check.same("nor at the end of a full one", Check.text(full), "a".repeat(64));
     }
 
     private static void identity() {

@@ -21,6 +21,7 @@ public final class TypeCharTest {
         fullWhenSelected();
         roomByReplacing();
         roomAfterTheSession();
+        startsAGroupInASession();
         leavesTheCaretBehindIt();
         showsInMirrors();
         showsAround();
@@ -94,7 +95,8 @@ public final class TypeCharTest {
         for (int caret : new int[] {0, 3, 7}) {
             SnippetSession x = new SnippetSession(8, 4);
             Check.play(x, "type abcdefg", "caret " + caret, "type z");
-            Check.same("the last place", Check.text(x), "abcdefg".substring(0, caret) + "z" + "abcdefg".substring(caret));
+            Check.same("the last place", Check.text(x),
+                    "abcdefg".substring(0, caret) + "z" + "abcdefg".substring(caret));
             Check.play(x, "back", "type y");
             Check.is("again after a backspace", Check.length(x), 8);
         }
@@ -246,6 +248,23 @@ public final class TypeCharTest {
         SnippetSession x = Check.expanded("$1");
         Check.play(x, "type 12345678", "escape", "type 9");
         Check.same("a full stop no longer matters", Check.text(x), "123456789");
+    }
+
+    private static void startsAGroupInASession() {
+        Check.says("Otherwise: a group is started if merge is false; a's typed flag is set and its typed text becomes"
+                + " the new text");
+        SnippetSession x = Check.expanded("${1:a}${2:b}");
+        Check.play(x, "type q");
+        Check.is("merge was false", Check.undoDepth(x), 2);
+        Check.play(x, "type r");
+        Check.is("merge was true", Check.undoDepth(x), 2);
+        Check.play(x, "next", "type s");
+        Check.is("merge was false again", Check.undoDepth(x), 3);
+        Check.is("the flag", x.stopState(2), SnippetSession.TYPED);
+        SnippetSession full = Check.expanded(8, 4, "abcdefgh", 0, "$1");
+        Check.refused("a refused code starts none", full, () -> full.typeChar('z'), SnippetSession.FULL);
+        Check.is("depth", Check.undoDepth(full), 1);
+        Check.is("nor does it set the flag", full.stopState(1), SnippetSession.UNTOUCHED);
     }
 
     private static void leavesTheCaretBehindIt() {

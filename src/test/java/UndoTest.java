@@ -4,8 +4,10 @@ public final class UndoTest {
         refusesAnEmptyHistory();
         popsTheTop();
         restoresPlainEdits();
+        restoresAFullBuffer();
         restoresASession();
         restoresTypedTexts();
+        restoresFullTexts();
         restoresTheSelectedFlag();
         bringsBackAnEndedSession();
         undoesAnExpansion();
@@ -17,6 +19,8 @@ public final class UndoTest {
         undoesAWholeExpansionInPieces();
         undoesAtEveryCap();
         losesTheExpansionBeyondTheCap();
+        undoesTheLastExpansionOnly();
+        endsEmpty();
         Check.finish();
     }
 
@@ -66,6 +70,25 @@ public final class UndoTest {
         Check.same("all undone", Check.text(x), "");
     }
 
+    private static void restoresAFullBuffer() {
+        Check.says("every part it holds is restored: buffer, caret, selStart");
+        SnippetSession x = new SnippetSession(64, 16);
+        for (int i = 0; i < 64; i++) {
+            Check.is("typeChar", x.typeChar(63 + i), SnippetSession.OK);
+        }
+        String full = Check.text(x);
+        for (int i = 0; i < 15; i++) {
+            Check.play(x, "back");
+        }
+        Check.is("a full history", Check.undoDepth(x), 16);
+        for (int i = 0; i < 15; i++) {
+            Check.play(x, "undo");
+            Check.same("undone", Check.text(x), full.substring(0, 50 + i));
+        }
+        Check.play(x, "undo");
+        Check.same("all undone", Check.text(x), "");
+    }
+
     private static void restoresASession() {
         Check.says("whether a session is active, active stop, selected flag, every stop's typed flag and typed text.");
         SnippetSession x = Check.expanded(64, 16, "ab", 1, "${1:a${2:b}}|$2|${1/u}");
@@ -100,6 +123,26 @@ public final class UndoTest {
             Check.is("stop " + n, all.stopState(n), n < 9 ? SnippetSession.TYPED : SnippetSession.UNTOUCHED);
         }
         Check.same("texts", Check.text(all), "12345678");
+    }
+
+    private static void restoresFullTexts() {
+        Check.says("every stop's typed flag and typed text.");
+        SnippetSession x = Check.expanded("$1$2$3$4$5$6$9");
+        for (int n = 1; n <= 7; n++) {
+            Check.play(x, "type " + n + "bcdefgh", n < 7 ? "next" : "feed 65");
+        }
+        String full = Check.text(x);
+        for (int i = 1; i <= 8; i++) {
+            Check.play(x, "back");
+        }
+        Check.is("a full history", Check.undoDepth(x), 16);
+        for (int i = 1; i <= 8; i++) {
+            Check.play(x, "undo");
+            Check.same("undone", Check.text(x), full.substring(0, 48 + i));
+        }
+        Check.play(x, "undo", "undo");
+        Check.same("at the stop before", Check.selection(x), "40..40 6 1");
+        Check.same("seven less two", Check.text(x), full.substring(0, 40));
     }
 
     private static void restoresTheSelectedFlag() {
@@ -256,5 +299,26 @@ public final class UndoTest {
         Check.refused("no more", x, x::undo, SnippetSession.EMPTY);
         Check.play(x, "type rs");
         Check.same("and works", Check.text(x), "arsrsb");
+    }
+
+    private static void undoesTheLastExpansionOnly() {
+        Check.says("After a successful expand, as long as no successful expand follows");
+        SnippetSession x = Check.expanded(64, 16, "AB", 1, "${1:a}$1");
+        Check.play(x, "type q", "escape", "body <${2:c}>", "expand", "type r");
+        Check.same("text", Check.text(x), "Aq<r>qB");
+        undoAll(x, "AqqB", 2);
+    }
+
+    private static void endsEmpty() {
+        Check.says("after which the buffer equals B, info(INFO_CARET) = info(INFO_SEL_START) = p, info(INFO_ACTIVE) ="
+                + " -1 and info(INFO_UNDO_DEPTH) = 0; one more undo answers EMPTY.");
+        String base = "abcdefgh";
+        for (int length = 0; length <= 8; length++) {
+            for (int caret = 0; caret <= length; caret++) {
+                SnippetSession x = Check.expanded(20, 16, base.substring(0, length), caret, "${1:a}-$1");
+                Check.play(x, "type xy", "back", "next", "type z", "caret 0", "type z");
+                undoAll(x, base.substring(0, length), caret);
+            }
+        }
     }
 }
